@@ -1003,7 +1003,7 @@ public final class PulledToAHair {
         }
 
         int thick(int c) {
-            return within(c, 0, CELLS - 1) ? (int) quotient(much[c], length[c]) : 0;
+            return c >= 0 && c < CELLS && length[c] > 0 ? much[c] / length[c] : 0;
         }
 
         int thinnest() {
@@ -1137,7 +1137,7 @@ public final class PulledToAHair {
         static final int DRAW = 0, TEARS = 1, STICKS = 2, SECTIONS = 3;
         static final int NAMES = 6;
         static final int OR = -11, AND = -12, NOT = -13, LESS = -14, LIKE = -15;
-        static final int PLUS = -16, MINUS = -17, TIMES = -18, LESS_THAN_NONE = -19;
+        static final int PLUS = -16, MINUS = -17, TIMES = -18, NEGATED = -19;
         /** Five left sides at most wait in each of six nested parts, and one is in hand. */
         private static final int DEEPEST = 40;
 
@@ -1180,11 +1180,11 @@ public final class PulledToAHair {
                         return 0;
                     }
                     stack[top] = code >= 0 ? code : named(code, names);
-                } else if (code == NOT || code == LESS_THAN_NONE) {
+                } else if (code == NOT || code == NEGATED) {
                     if (top < 0) {
                         return 0;
                     }
-                    stack[top] = code == NOT ? truth(stack[top] == 0) : -stack[top];
+                    stack[top] = code == NEGATED ? -stack[top] : stack[top] == 0 ? 1 : 0;
                 } else {
                     if (top < 1) {
                         return 0;
@@ -1201,16 +1201,12 @@ public final class PulledToAHair {
             return name >= 0 && name < names.length ? names[name] : 0;
         }
 
-        private static int truth(boolean is) {
-            return is ? 1 : 0;
-        }
-
         private static int joined(int code, int a, int b) {
             switch (code) {
-                case OR: return truth(a != 0 || b != 0);
-                case AND: return truth(a != 0 && b != 0);
-                case LESS: return truth(a < b);
-                case LIKE: return truth(a == b);
+                case OR: return a != 0 || b != 0 ? 1 : 0;
+                case AND: return a != 0 && b != 0 ? 1 : 0;
+                case LESS: return a < b ? 1 : 0;
+                case LIKE: return a == b ? 1 : 0;
                 case PLUS: return a + b;
                 case MINUS: return a - b;
                 default: return a * b;
@@ -1371,7 +1367,7 @@ public final class PulledToAHair {
                 if (!readOne(text, open + 1)) {
                     return false;
                 }
-                text.add(Text.LESS_THAN_NONE);
+                text.add(Text.NEGATED);
                 return true;
             }
             if (!readEither(text, open + 1) || token != ')') {
