@@ -246,6 +246,8 @@ public final class DoughTest {
         value("0 or 0", 0);
         value("7 and 5", 1);
         value("7 and 0", 0);
+        value("0 and 7", 0);
+        value("0 or 7", 1);
         value("not 7", 0);
         value("not 0", 1);
         value("not not 7", 1);
@@ -289,6 +291,8 @@ public final class DoughTest {
         due.is("force(1)", 2);
         due.is("whole(1, 1)", 980000000);
         due.is("count(5)", 1);
+        due.is("force(0)", 1);
+        due.is("count(5)", 0);
     }
 
     private static void step() {

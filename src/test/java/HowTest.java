@@ -35,6 +35,8 @@ public final class HowTest {
         due.is("window(1, 1)", 0b1111100000);
         due.is("rope(0, 0, 1)", 100);
         due.is("rope(1, 0, 1)", 100);
+        // LENGTHS 117 and 196 or 197, THICK 256 and 306 or 304; below PACE 5 it is 157 and 315 (not less)
+        due.is("window(0, 9)", 0b1111100000);
         due.fresh("promise 16, a least THICK of 0");
         due.is("roll(3, 0, 1)", 60000);
         due.is("window(0, 1)", 0b1111111110);
@@ -49,6 +51,7 @@ public final class HowTest {
         // SPREAD 273 below PACE 5, 251 from there on
         due.is("pace(0, 1, 1)", 5);
         due.is("pace(0, 0, 1)", 1);
+        due.is("pace(0, 9, 0)", 4);
         due.is("step(3, 0, 1)", 0);
         due.is("pace(1, 2, 0)", 4);
         due.is("pace(2, 1, 0)", -5);

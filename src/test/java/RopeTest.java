@@ -170,6 +170,16 @@ public final class RopeTest {
         due.is("step(2, 5, 3)", 0);
         due.is("whole(1, 0)", 0);
         due.is("whole(1, 2)", 0);
+        due.fresh("promise 13, tears of 101 for one CELL");
+        due.law("1", "(thick = 200) * 101", "0");
+        due.is("roll(4, 1, 300)", 100);
+        due.is("step(1, 0, 3)", 0);
+        due.is("whole(1, 0)", 0);
+        due.fresh("promise 13, tears of 99 for one CELL");
+        due.law("1", "(thick = 200) * 99", "0");
+        due.is("roll(4, 1, 300)", 100);
+        due.is("step(1, 0, 3)", 0);
+        due.is("whole(1, 0)", 10000000);
         due.fresh("promise 13, tears below 0");
         due.law("1", "0 - thick", "0");
         due.is("step(2, 5, 3)", 0);
