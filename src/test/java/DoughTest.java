@@ -172,6 +172,24 @@ public final class DoughTest {
         fault("1 2", 2);
         fault("5wet", 1);
         fault("wets", 0);
+        for (String word : new String[] {"pet", "wat", "wer", "xhick", "thicc", "stifx", "xtiff", "pade", "xace",
+            "xolds", "foldx", "xust", "duss", "thi", "t", "thickthick"}) {
+            fault(word, 0);
+            fault("1 + " + word, 4);
+        }
+        fault("1 xr 2", 2);
+        fault("1 ox 2", 2);
+        fault("1 xnd 2", 2);
+        fault("1 anx 2", 2);
+        fault("xot 1", 0);
+        fault("nox 1", 0);
+        due.text("xraw 0 ; tears 0 ; sticks 0 ;", -100);
+        due.text("drax 0 ; tears 0 ; sticks 0 ;", -100);
+        due.text("draw 0 ; xears 0 ; sticks 0 ;", -109);
+        due.text("draw 0 ; tearx 0 ; sticks 0 ;", -109);
+        due.text("draw 0 ; tears 0 ; xticks 0 ;", -119);
+        due.text("draw 0 ; tears 0 ; stickx 0 ;", -119);
+        due.text("draw 0 ; tears 0 ; stickss 0 ;", -119);
         fault("1 + we", 4);
         fault("Wet", 0);
         fault("1 /", 2);

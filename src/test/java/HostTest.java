@@ -44,10 +44,25 @@ public final class HostTest {
         due.is("sheet(1, 2, 12)", 1);
         due.is("judge(0, 1, 600)", -1);
         due.is("judge(0, 1, 599)", 0);
-        due.is("cell(1, 5, 1200)", 1);
-        due.is("sheet(1, 2, 12)", 1);
-        due.is("judge(0, 1, 600)", -1);
+        for (int i = 0; i < 12; i++) {
+            due.is("cell(1, " + i + ", 9999)", 1);
+            due.is("judge(0, 1, 600)", i);
+            due.is("sheet(1, 2, 12)", 1);
+            due.is("judge(0, 1, 600)", -1);
+        }
         due.is("judge(0, 1, 599)", 0);
+        // also what lay beyond the end of a shorter one
+        due.is("sheet(1, 2, 40)", 1);
+        for (int i = 0; i < 40; i++) {
+            due.is("cell(1, " + i + ", 9999)", 1);
+        }
+        due.is("sheet(1, 2, 1)", 1);
+        due.is("sheet(1, 2, 40)", 1);
+        for (int from = 0; from <= 28; from += 4) {
+            due.is("sheet(0, 2, 12)", 1);
+            due.is("copy(1, " + from + ", 0, 0, 12)", 12);
+            due.is("judge(0, 0, 600)", -1);
+        }
     }
 
     private static void cell() {

@@ -272,6 +272,14 @@ public final class TellsTest {
         due.is("pot(0)", 150);
         due.is("step(1, 9, 1)", 0);
         due.is("pot(1)", 78);
+        for (int c = 0; c < 12; c++) {
+            due.fresh("promise 28, by CELL " + c);
+            thick(0, 100);
+            thick(4, 100);
+            thick(8, 100);
+            due.is("roll(" + c + ", 0, 19000)", 10000);
+            due.is("pot(0)", 190);
+        }
         due.fresh("promise 28, nothing to be done");
         for (int c = 0; c < 12; c++) {
             due.is("roll(" + c + ", 0, 99)", 60000);
