@@ -1,11 +1,17 @@
 import java.lang.reflect.InvocationTargetException;
 import java.lang.reflect.Method;
 import java.nio.charset.StandardCharsets;
+import java.util.ArrayList;
+import java.util.List;
 
 /** Calls told as texts, such as "rope(0, 1, 2)", on an object, and how many did not answer what is due. */
 final class Due {
+    /** The document promises nothing of an object behind so many calls. */
+    private static final int MOST_CALLS = 512;
+
     private final String test;
     private Object object;
+    private int calls = 0;
     private String part = "";
     private int asked = 0;
     private int wrong = 0;
@@ -17,11 +23,29 @@ final class Due {
     /** What follows is about this part, on a new object. */
     void fresh(String newPart) {
         part = newPart;
+        again();
+    }
+
+    /** The same part, on a new object. */
+    void again() {
         object = new PulledToAHair();
+        calls = 0;
     }
 
     void is(String call, long want) {
-        same(call, answer(object, call), want);
+        same(call, ask(call), want);
+    }
+
+    long ask(String call) {
+        calls++;
+        if (calls == MOST_CALLS + 1) {
+            same("calls on one object", calls, MOST_CALLS);
+        }
+        return answer(object, call);
+    }
+
+    int asked() {
+        return asked;
     }
 
     void same(String call, long got, long want) {
@@ -33,21 +57,51 @@ final class Due {
     }
 
     void tape(String text) {
-        tape(object, text);
+        for (String call : feeds(text)) {
+            ask(call);
+        }
     }
 
     /** The tape is these bytes and is read: text() is to answer this. */
     void text(String text, long want) {
         tape(text);
-        same("text() of \"" + text + "\"", answer(object, "text()"), want);
+        same("text() of \"" + text + "\"", ask("text()"), want);
     }
 
     /** A text that is fine is made and becomes the law. */
     void law(String draw, String tears, String sticks) {
         tape("draw " + draw + " ; tears " + tears + " ; sticks " + sticks + " ;");
-        long number = answer(object, "text()");
+        long number = ask("text()");
         same("the text is fine", number >= 0 ? 1 : 0, 1);
-        answer(object, "force(" + number + ")");
+        ask("force(" + number + ")");
+    }
+
+    /** Steps come behind those that are there, each told as "KIND, MORE, PACE". */
+    void steps(String... told) {
+        for (String step : told) {
+            is("step(" + step + ")", ask("count(3)"));
+        }
+    }
+
+    /** What 0 MUCH, 1 LENGTH of all cells becomes v, as it is rolled. */
+    void rollAll(int what, int v) {
+        for (int c = 0; c < 12; c++) {
+            ask("roll(" + c + ", " + what + ", " + v + ")");
+        }
+    }
+
+    /** What 0 THICK, 1 LENGTH, 2 STIFF of cells 0, 1, .. is behind n steps. */
+    void row(int n, int what, long... wants) {
+        for (int c = 0; c < wants.length; c++) {
+            is("rope(" + n + ", " + c + ", " + what + ")", wants[c]);
+        }
+    }
+
+    /** What 0 THICK, 1 LENGTH, 2 STIFF is of all cells alike. */
+    void all(int n, int what, long want) {
+        for (int c = 0; c < 12; c++) {
+            is("rope(" + n + ", " + c + ", " + what + ")", want);
+        }
     }
 
     void sheetTells(int s, int... numbers) {
@@ -65,20 +119,25 @@ final class Due {
         }
     }
 
-    Object object() {
-        return object;
+    static void tape(Object on, String text) {
+        for (String call : feeds(text)) {
+            answer(on, call);
+        }
     }
 
-    static void tape(Object on, String text) {
+    /** The calls that put a text behind the tape, eight bytes at once. */
+    private static List<String> feeds(String text) {
         byte[] bytes = text.getBytes(StandardCharsets.ISO_8859_1);
+        List<String> calls = new ArrayList<>();
         for (int from = 0; from < bytes.length; from += 8) {
             int n = Math.min(8, bytes.length - from);
             long w = 0;
             for (int i = 0; i < n; i++) {
                 w = w << 8 | bytes[from + i] & 255;
             }
-            answer(on, "feed(" + w + ", " + n + ")");
+            calls.add("feed(" + w + ", " + n + ")");
         }
+        return calls;
     }
 
     static long answer(Object on, String call) {

@@ -29,7 +29,7 @@ public final class ExactTest {
         due.is("place(3000, 1)", 2191);
         due.is("place(3000, 2)", 3809);
         due.is("place(3000, 13)", 3000);
-        due.is("place(3000, 64)", Due.answer(due.object(), "place(3000, 12)"));
+        due.is("place(3000, 64)", due.ask("place(3000, 12)"));
         due.is("place(0, 64)", 0);
         due.is("place(-1, 0)", -2);
         due.is("place(4096, 0)", -2);

@@ -141,11 +141,11 @@ public final class TellsTest {
         due.is("set(2, 8)", 5);
         due.is("film(3, 0)", 12);
         for (int what = 0; what <= 2; what++) {
-            long was = Due.answer(due.object(), "count(" + what + ")");
-            long bits = Due.answer(due.object(), "serves(3, 0, " + what + ")");
+            long was = due.ask("count(" + what + ")");
+            long bits = due.ask("serves(3, 0, " + what + ")");
             for (int v = 0; v <= 9; v++) {
-                Due.answer(due.object(), "set(" + what + ", " + v + ")");
-                long off = Due.answer(due.object(), "judge(3, 0, 0)");
+                due.ask("set(" + what + ", " + v + ")");
+                long off = due.ask("judge(3, 0, 0)");
                 due.same("serving of " + v + " as " + what, bits >> v & 1, off == -1 ? 1 : 0);
             }
             due.is("set(" + what + ", " + was + ")", 9);
