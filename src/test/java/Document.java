@@ -22,6 +22,11 @@ final class Document {
     private final Map<String, String> texts = new LinkedHashMap<>();
     private final Map<String, boolean[]> quoted = new LinkedHashMap<>();
 
+    /** Whether the document is there to be quoted. */
+    static boolean isThere() {
+        return Files.isReadable(PLACE);
+    }
+
     Document() throws IOException {
         List<String> lines = Files.readAllLines(PLACE, StandardCharsets.UTF_8);
         for (String[] term : TERMS) {

@@ -11,8 +11,8 @@ final class EdgesOfExact {
     private static final String MIXED = "2 how many have some of it, and some not.";
     private static final String THIN = "thick (1 .. 999999) by 2, k (0 .. 30) times multiplied: "
         + "part 0 above, 1 below the line, in lowest terms.";
-    private static final String ODDS =
-        "(below less above) by below, k (0 .. 10) times multiplied (below 1 .. 30, above 0 .. below): part as of thin().";
+    private static final String ODDS = "(below less above) by below, k (0 .. 10) times multiplied "
+        + "(below 1 .. 30, above 0 .. below): part as of thin().";
     private static final String RECORD = "The most k (0 .. 10) for which that is no less than sure (0 .. 100) by 100.";
     private static final String BY_LOT =
         "DRAWN BY LOT: of the ROPE behind n STEPS what 0 THICK of a CELL, 1 SPREAD.";
@@ -319,6 +319,11 @@ final class EdgesOfExact {
         due.is("record(1, 2, 51)", 0);
         due.is("record(1, 2, 25)", 2);
         due.is("record(1, 2, 26)", 1);
+        // 96.67, then 93.44 of 100
+        due.is("record(1, 30, 97)", 0);
+        due.is("record(1, 30, 96)", 1);
+        due.is("record(1, 30, 94)", 1);
+        due.is("record(1, 30, 93)", 2);
         due.is("record(1, 10, 81)", 2);
         due.is("record(1, 10, 82)", 1);
         // 29 by 30 nine times is 0.737, ten times 0.712

@@ -13,7 +13,8 @@ final class EdgesOfHost {
     private static final String CAME = "how many came (others are left out).";
     private static final String AHEAD = "-12: what stood ahead came.";
     private static final String LIES = "What lies at place i: 0 .. 11 CELLS, 12 .. 23 STEPS";
-    private static final String OF_A_KIND = "taken for 0 .. 5 a STEP of that KIND (also of one that is one): its number";
+    private static final String OF_A_KIND =
+        "taken for 0 .. 5 a STEP of that KIND (also of one that is one): its number";
 
     private EdgesOfHost() {
     }
@@ -175,7 +176,8 @@ final class EdgesOfHost {
     @Edge(of = "Promise 41", says = BECOMES)
     static void anIntIsWhole(Due due) {
         due.is("sheet(0, 2, 12)", 1);
-        for (int v : new int[] {Integer.MAX_VALUE, Integer.MIN_VALUE, 65536 + 600, -65536 + 600, 256 * 256 * 256 + 600}) {
+        int[] far = {Integer.MAX_VALUE, Integer.MIN_VALUE, 65536 + 600, -65536 + 600, 256 * 256 * 256 + 600};
+        for (int v : far) {
             due.is("film(0, 0)", 12);
             due.is("cell(0, 7, " + v + ")", 1);
             due.is("judge(0, 0, 9999)", 7);

@@ -90,6 +90,12 @@ final class EdgesOfHow {
     }
 
     @Edge(of = "Promise 17", says = MOST_WHOLE)
+    static void pacesOutsideAreNotTried(Due due) {
+        due.law("1", "(0 < pace and pace < 10) * 5", "0");
+        due.is("pace(0, 5, 0)", 1);
+    }
+
+    @Edge(of = "Promise 17", says = MOST_WHOLE)
     static void nothingWouldBeWhole(Due due) {
         due.law("1", "100", "0");
         due.is("pace(0, 5, 0)", 1);

@@ -223,6 +223,15 @@ final class EdgesOfRope {
     }
 
     @Edge(of = "Promise 14", says = MOST_STEPS)
+    static void aLittleLessSure(Due due) {
+        // 886384868 are whole
+        due.law("1", "1", "0");
+        due.steps("1, 0, 1");
+        due.is("stop(88)", 1);
+        due.is("stop(89)", 0);
+    }
+
+    @Edge(of = "Promise 14", says = MOST_STEPS)
     static void wholeAndFreeTogether(Due due) {
         due.law("1", "(thick = 300) * 10", "10");
         due.is("roll(2, 0, 30000)", 60000);

@@ -284,6 +284,18 @@ final class EdgesOfSteps {
         due.is("whole(1, 1)", 910000000);
     }
 
+    @Edge(of = "Promise 6", says = "-100 less the place of its FAULT.")
+    static void nothingOfAFaultIsLeft(Due due) {
+        String faulty = "draw wet" + "+wet".repeat(37);
+        for (int i = 0; i < 5; i++) {
+            due.text(faulty, -100 - faulty.length());
+        }
+        due.text("draw 1 ; tears 0 ; sticks 1 + 2 * 3 ;", 1);
+        due.is("force(1)", 0);
+        due.steps("3, 0, 1");
+        due.is("whole(1, 1)", 930000000);
+    }
+
     @Edge(of = "Promise 6", says = FULL_TEXTS)
     static void textsAreFull(Due due) {
         for (int t = 1; t <= 5; t++) {

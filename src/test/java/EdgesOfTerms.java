@@ -67,6 +67,8 @@ final class EdgesOfTerms {
     static void theOthersLeastIsNothing(Due due) {
         // 600 and 0, then 545 and 0: 545 and 600
         evenly(due, 99, 1, 1022);
+        // 600 and 0, drawn by nothing: 600 and 600
+        due.is("window(0, 0)", 0);
     }
 
     @Edge(of = "MORE EVEN", says = LESS)
@@ -610,11 +612,11 @@ final class EdgesOfTerms {
                 all.add(String.format(of, 1));
             }
         }
-        Collections.addAll(all, "count(0)", "stepTold(1, 3)", "rope(3, 0, 2)", "state(3, 4)", "state(2, 7)", "whole(3, 0)",
-            "whole(3, 1)", "whole(3, 2)", "stop(50)", "stop(99)", "worst()", "pace(3, 9, 0)", "serves(3, 0, 1)",
-            "serves(3, 0, 2)", "uneven(3, 0)", "place(77, 5)", "apart(7, 8, 9)", "parted(7, 8, 99)", "round(5)",
-            "colours(77, 3, 1)", "colours(77, 3, 2)", "thin(600, 5, 1)", "odds(1, 3, 4, 0)", "record(1, 30, 80)",
-            "drawn(3, 0, 9, 1)", "drawn(3, 4, 5, 0)", "taken(3, 6)", "taken(13, 0)");
+        Collections.addAll(all, "count(0)", "stepTold(1, 3)", "rope(3, 0, 2)", "state(3, 4)", "state(2, 7)",
+            "whole(3, 0)", "whole(3, 1)", "whole(3, 2)", "stop(50)", "stop(99)", "worst()", "pace(3, 9, 0)",
+            "serves(3, 0, 1)", "serves(3, 0, 2)", "uneven(3, 0)", "place(77, 5)", "apart(7, 8, 9)", "parted(7, 8, 99)",
+            "round(5)", "colours(77, 3, 1)", "colours(77, 3, 2)", "thin(600, 5, 1)", "odds(1, 3, 4, 0)",
+            "record(1, 30, 80)", "drawn(3, 0, 9, 1)", "drawn(3, 4, 5, 0)", "taken(3, 6)", "taken(13, 0)");
         return all;
     }
 

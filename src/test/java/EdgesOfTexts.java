@@ -276,6 +276,14 @@ final class EdgesOfTexts {
         fault(due, "(1;)", 2);
     }
 
+    @Edge(of = "A TEXT", says = ONE)
+    static void asDeepAsCanBe(Due due) {
+        // at each of six levels the left sides of or, and, <, + and * wait
+        String level = "0or 1and 1<1+1*";
+        value(due, (level + "(").repeat(5) + level + "7" + ")".repeat(5), 1);
+        value(due, (level + "(").repeat(5) + level + "0" + ")".repeat(5), 0);
+    }
+
     @Edge(of = "A TEXT", says = "NAMES: wet thick stiff pace folds dust.")
     static void theSixNames(Due due) {
         fine(due, "wet + thick + stiff + pace + folds + dust");
